@@ -32,9 +32,10 @@ public final class HornRuleWorkbench {
     private static final int TYPE_INT = 1;
     private static final int TYPE_LONG = 2;
     private static final int SYNTAX_ERROR = -100;
-    // The learner never holds more pairs than there are rules, and each of its at most ten pairs
-    // takes part in at most 7 negative and 21 positive rounds, so 280 rounds are the most.
-    private static final int MAX_ROUNDS = 512;
+    // The learner never holds more pairs than there are rules. A negative round makes a pair or
+    // makes its s smaller, 7 times at most; a positive round makes an r smaller, and the r of a
+    // pair begins with at most 0, 1, .. 6 attributes after those 7 rounds, 21 in all.
+    private static final int MAX_ROUNDS = MAX_RULES * (7 + 21);
     // The first counterexample for a set makes its context closure its closure, so a set is asked
     // about at most twice, and adds at most one example.
     private static final int MAX_QUESTIONS = 2 * MAX_SETS;
