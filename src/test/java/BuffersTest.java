@@ -156,6 +156,9 @@ public final class BuffersTest {
         due("69 type int", w.readBuffer(1, 0), 0);
         w.writeBuffer(2, 0, 1L << 32);
         due("69 type long", w.readBuffer(2, 0), 1L << 32);
+        w.addRule(0, 1);
+        w.exportClosures(0, 1);
+        dueElements("69 nothing implies a", w, 0, 3, 3, 3, 3);
         w.reset(6);
         due("69 64 elements", w.exportClosures(0, 0), 64);
         due("69 the last", w.readBuffer(0, 63), 63);
@@ -185,6 +188,8 @@ public final class BuffersTest {
         due("70 elements beyond 2^n do not count", w.firstDifference(0), -2);
         w.setEnabled(0, 0);
         due("70 a disabled rule", w.firstDifference(0), 1);
+        w.writeBuffer(0, 0, 1);
+        due("70 the first element", w.firstDifference(0), 0);
     }
 
     /** The draws with seed 1 and four attributes, by hand: 1103527590, then 2524885223 and so on. */

@@ -56,6 +56,10 @@ public final class ExamplesTest {
         due("47 set -1", w.contextClosure(-1), -1);
         w.addRule(5, 10);
         due("47 rules do not matter", w.contextClosure(1), 5);
+        w.reset(6);
+        due("47 the full set of six attributes", w.contextClosure(1), 63);
+        w.reset(1);
+        due("47 the full set of one attribute", w.contextClosure(0), 1);
     }
 
     private static void supportAndConfidence() {

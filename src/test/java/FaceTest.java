@@ -42,7 +42,8 @@ public final class FaceTest {
         TreeSet<String> want = new TreeSet<>();
         Matcher method = Pattern.compile("public (int|long) (\\w+)\\(([^)]*)\\);").matcher(block);
         while (method.find()) {
-            want.add(method.group(1) + " " + method.group(2) + "(" + method.group(3).replaceAll(" \\w+(,|$)", "$1") + ")");
+            String types = method.group(3).replaceAll(" \\w+(,|$)", "$1");
+            want.add(method.group(1) + " " + method.group(2) + "(" + types + ")");
         }
         TreeSet<String> got = new TreeSet<>();
         for (Method found : HornRuleWorkbench.class.getDeclaredMethods()) {
@@ -75,7 +76,7 @@ public final class FaceTest {
                 Due.due(field.getName() + " is long", isLong ? 1 : 0, position == 10 ? 1 : 0);
                 count++;
             } else {
-                Due.due(field.getName() + " is private", field.getModifiers() & Modifier.PRIVATE, Modifier.PRIVATE);
+                Due.due(field.getName() + " is private", Modifier.isPrivate(field.getModifiers()) ? 1 : 0, 1);
             }
         }
         Due.due("constants", count, names.length);

@@ -88,6 +88,12 @@ public final class LatticeTest {
         w.addRule(1, 2);
         w.addRule(2, 1);
         due("20 one cover that two attributes lead to", w.upperCoverCount(0), 1);
+        w.reset(2);
+        w.addRule(2, 1);
+        due("20 b leads beyond the cover that a leads to", w.upperCoverCount(0), 1);
+        w.reset(3);
+        w.addRule(2, 4);
+        due("20 a and c; what b leads to lies above c", w.upperCoverCount(0), 2);
     }
 
     private static void irreducibles() {
@@ -106,6 +112,10 @@ public final class LatticeTest {
         w.addRule(0, 7);
         due("21 only the full set is closed", w.irreducibleCount(), 0);
         due("22 irreducible(0)", w.irreducible(0), -2);
+        w.reset(6);
+        due("21 six attributes", w.irreducibleCount(), 6);
+        due("22 the lowest of six", w.irreducible(0), 31);
+        due("22 the highest of six", w.irreducible(5), 62);
     }
 
     private static void minimalKeys() {
@@ -125,6 +135,12 @@ public final class LatticeTest {
         w.addRule(0, 7);
         due("23 the empty set is a key", w.minimalKeyCount(), 1);
         due("24 the empty set", w.minimalKey(0), 0);
+        w.reset(6);
+        w.addRule(16, 32);
+        w.addRule(32, 16);
+        due("23 six attributes", w.minimalKeyCount(), 2);
+        due("24 all but f", w.minimalKey(0), 31);
+        due("24 all but e", w.minimalKey(1), 47);
     }
 
     private static void generators() {
@@ -152,6 +168,10 @@ public final class LatticeTest {
         w.addRule(3, 4);
         due("25 a and b together", w.generatorCount(2), 1);
         due("26 3", w.generator(2, 0), 3);
+        w.reset(6);
+        w.addRule(48, 1);
+        due("25 the last two of six attributes", w.generatorCount(0), 1);
+        due("26 48", w.generator(0, 0), 48);
     }
 
     private static void canonicalBasis() {
@@ -197,6 +217,13 @@ public final class LatticeTest {
         w.setEnabled(1, 0);
         due("30 without the twin", w.redundantRules(), 0b0100);
         due("31 without the twin", w.irredundantCover(), 0b1001);
+        w.reset(4);
+        w.addRule(1, 8);
+        w.addRule(4, 8);
+        w.addRule(2, 4);
+        w.addRule(1, 2);
+        due("30 a rule that follows from three others", w.redundantRules(), 0b0001);
+        due("31 without it", w.irredundantCover(), 0b1110);
         w.reset(4);
         for (int i = 0; i < 10; i++) {
             w.addRule(3, 3);

@@ -134,6 +134,14 @@ public final class LearnerTest {
         due("36 a rule again", w.learnedCount(), 1);
         w.reset(4);
         due("36 after reset", w.learnedCount(), 0);
+        due("33 after reset", w.learnerRounds(), 0);
+        w.addRule(0, 1);
+        due("33 another rule", w.learnerRounds(), 2);
+        due("34 another rule", w.counterexample(0), 0);
+        due("35 another rule", w.positiveCounterexamples(), 1);
+        w.undo();
+        due("35 without it", w.positiveCounterexamples(), 0);
+        due("39 without it", w.membershipQueries(), 0);
     }
 
     private static void queryBound() {

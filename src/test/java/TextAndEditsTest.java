@@ -238,6 +238,11 @@ public final class TextAndEditsTest {
         w.addRule(0, 0);
         due("63 one rule more", w.equalsSnapshot(), 0);
         due("64 restore", w.restore(), 2);
+        w.addRule(4, 8);
+        due("60 undo after restore", w.undo(), 0);
+        due("60 goes back to what was restored", w.ruleCount(), 2);
+        due("60 and to its flags", w.isEnabled(1), 0);
+        w.restore();
         due("72 restore forgets all edits", w.undoCount(), 0);
         due("73 restore forgets all edits", w.redoCount(), 0);
         due("64 the flags", w.isEnabled(0) * 10 + w.isEnabled(1), 10);
