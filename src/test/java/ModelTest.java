@@ -34,6 +34,8 @@ public final class ModelTest {
             Map.entry("firstDifference", "b"), Map.entry("randomClosureSum", "dv"));
     /** Calls that would empty the object too often if they came as often as the others. */
     private static final List<String> SELDOM = List.of("reset", "clearExamples", "restore");
+    /** What later calls answer is free. */
+    private static final int MAX_CALLS = 512;
     private static final int[] EXTREMES = {-1, Integer.MIN_VALUE, Integer.MAX_VALUE, -2, 64, 65};
 
     private final Random random;
@@ -50,10 +52,10 @@ public final class ModelTest {
         long firstSeed = args.length > 1 ? Long.parseLong(args[1]) : 0;
         List<Method> methods = methods();
         for (long seed = firstSeed; seed < firstSeed + runs; seed++) {
-            new ModelTest(seed).randomRun(methods, 512);
+            new ModelTest(seed).randomRun(methods);
         }
         for (long seed = firstSeed; seed < firstSeed + runs; seed++) {
-            new ModelTest(seed).sweep(methods);
+            sweep(methods, seed);
         }
         Due.end();
     }
@@ -69,9 +71,9 @@ public final class ModelTest {
         return methods;
     }
 
-    private void randomRun(List<Method> methods, int length) throws Exception {
+    private void randomRun(List<Method> methods) throws Exception {
         call("reset", 1 + random.nextInt(6));
-        while (calls.size() < length && Due.wrongAnswers() == 0) {
+        while (calls.size() < MAX_CALLS && Due.wrongAnswers() == 0) {
             int choice = random.nextInt(10);
             if (choice == 0) {
                 playText();
@@ -96,8 +98,20 @@ public final class ModelTest {
         }
     }
 
-    /** Sets up rules and examples and asks every question that changes nothing, with all arguments. */
-    private void sweep(List<Method> methods) throws Exception {
+    /** Asks every question that changes nothing, with all arguments, about the rules of one seed. */
+    private static void sweep(List<Method> methods, long seed) throws Exception {
+        ModelTest test = null;
+        for (Object[] question : questions(methods)) {
+            if (test == null || test.calls.size() == MAX_CALLS) {
+                test = new ModelTest(seed);
+                test.setUp();
+            }
+            test.call((String) question[0], Arrays.copyOfRange(question, 1, question.length));
+            test.tellRun();
+        }
+    }
+
+    private void setUp() throws Exception {
         int n = 1 + random.nextInt(6);
         call("reset", n);
         int rules = random.nextInt(11);
@@ -111,23 +125,29 @@ public final class ModelTest {
             call("addExample", random.nextInt(1 << n));
         }
         call("formatRules");
+    }
+
+    /** Each has the method's name first, and then its arguments. */
+    private static List<Object[]> questions(List<Method> methods) {
+        List<Object[]> questions = new ArrayList<>();
         for (Method method : methods) {
-            String kinds = KINDS.getOrDefault(method.getName(), "");
-            if (kinds.isEmpty() && isQuestion(method.getName())) {
-                call(method.getName());
-            } else if (kinds.matches("[spra]") && isQuestion(method.getName())) {
+            String name = method.getName();
+            String kinds = KINDS.getOrDefault(name, "");
+            if (kinds.isEmpty() && isQuestion(name)) {
+                questions.add(new Object[] {name});
+            } else if (kinds.matches("[spra]") && isQuestion(name)) {
                 for (int i = -1; i <= (kinds.equals("p") ? 140 : 64); i++) {
-                    call(method.getName(), i);
+                    questions.add(new Object[] {name, i});
                 }
-            } else if (method.getName().equals("generator") || method.getName().equals("firedRule")) {
+            } else if (name.equals("generator") || name.equals("firedRule")) {
                 for (int i = -1; i <= 64; i++) {
                     for (int k = -1; k <= 20; k++) {
-                        call(method.getName(), i, k);
+                        questions.add(new Object[] {name, i, k});
                     }
                 }
             }
         }
-        tellRun();
+        return questions;
     }
 
     private static boolean isQuestion(String name) {
@@ -204,6 +224,9 @@ public final class ModelTest {
     }
 
     private void call(String name, Object... arguments) throws Exception {
+        if (calls.size() == MAX_CALLS) {
+            return;
+        }
         Class<?>[] types = new Class<?>[arguments.length];
         for (int i = 0; i < types.length; i++) {
             types[i] = arguments[i] instanceof Long ? long.class : int.class;
