@@ -774,7 +774,7 @@ public final class HornRuleWorkbench {
         }
 
         boolean has(int rule) {
-            return rule >= 0 && rule < codes.size();
+            return rule >= 0 && rule < codes.size;
         }
 
         int premiseAt(int rule) {

@@ -202,6 +202,8 @@ final class BufferBoundaries extends Boundaries {
             due("source missing", w.copyBuffer(2, 0, 0, 0, count), MISSING_BUFFER);
             due("target missing", w.copyBuffer(0, 0, 2, 0, count), MISSING_BUFFER);
             due("both missing", w.copyBuffer(2, 0, 2, 0, count), MISSING_BUFFER);
+            due("an int source, target missing", w.copyBuffer(1, 0, 2, 0, count), MISSING_BUFFER);
+            due("an int target, source missing", w.copyBuffer(2, 0, 1, 0, count), MISSING_BUFFER);
             due("byte to int", w.copyBuffer(0, 0, 1, 0, count), TYPE_MISMATCH);
             due("int to byte", w.copyBuffer(1, 0, 0, 0, count), TYPE_MISMATCH);
         }

@@ -408,8 +408,13 @@ final class DescriptionBoundaries extends Boundaries {
         w.setEnabled(0, 0);
         dueRow("after another", w::learnedPremise, 2);
         due("no query is left", w.membershipQueries(), 0);
+        w.setRule(1, 0, 1);
+        due("positive ones of another rule", w.positiveCounterexamples(), 1);
+        w.setRule(1, 0, 2);
+        due("they are not added up", w.positiveCounterexamples(), 1);
         w.reset(3);
         due("no round is left", w.learnerRounds(), 0);
+        due("no positive one is left", w.positiveCounterexamples(), 0);
     }
 
     private static void examples() {

@@ -4,6 +4,8 @@ import java.util.function.ToLongFunction;
 
 /** The sentences about errors and constants that stand before the first promise. */
 final class ErrorBoundaries extends Boundaries {
+    private static final int MAX_EDITS = 12;
+
     static void run() {
         unchangedState();
         severalErrors();
@@ -30,10 +32,10 @@ final class ErrorBoundaries extends Boundaries {
         }
         addExamples(state, w);
         addRules(state, w);
-        while (w.redo() != EMPTY) {
+        for (int step = 0; step <= MAX_EDITS && w.redo() >= 0; step++) {
             addRules(state, w);
         }
-        while (w.undo() != EMPTY) {
+        for (int step = 0; step <= MAX_EDITS && w.undo() >= 0; step++) {
             addRules(state, w);
         }
         state.append(w.parseRules());
@@ -163,6 +165,8 @@ final class ErrorBoundaries extends Boundaries {
         due("writeBuffer, missing", w.writeBuffer(2, -1, 0), MISSING_BUFFER);
         due("copyBuffer, number", w.copyBuffer(2, -1, 3, -1, -1), BAD_ARGUMENT);
         due("copyBuffer, missing", w.copyBuffer(0, -1, 2, -1, -1), MISSING_BUFFER);
+        due("copyBuffer, missing", w.copyBuffer(1, -1, 2, -1, -1), MISSING_BUFFER);
+        due("copyBuffer, missing", w.copyBuffer(2, -1, 1, -1, -1), MISSING_BUFFER);
         due("copyBuffer, type", w.copyBuffer(0, -1, 1, -1, -1), TYPE_MISMATCH);
     }
 

@@ -177,6 +177,22 @@ final class ExampleBoundaries extends Boundaries {
         due("one that is not", with(1).questionCount(), 1);
         due("six", sixQuestions().questionCount(), 6);
         due("all sets but the full one", with(6).questionCount(), 63);
+        HornRuleWorkbench w = with(1);
+        due("at first", w.questionCount(), 1);
+        w.addExample(0);
+        due("the example spares the question", w.questionCount(), 0);
+        w.clearExamples();
+        due("without it", w.questionCount(), 1);
+        w.addRule(0, 1);
+        dueRow("a rule more", w::questionPremise, 0);
+        dueRow("a rule more", w::isAccepted, 1);
+        w.undo();
+        dueRow("undone", w::questionConclusion, 1);
+        dueRow("undone", w::isAccepted, 0);
+        w.addExample(0);
+        w.reset(2);
+        dueRow("no example is left", w::questionPremise, 0, 1, 2);
+        dueRow("no example is left", w::questionConclusion, 3, 3, 3);
     }
 
     private static void questionPremise() {

@@ -23,7 +23,10 @@ public final class FaceTest {
         constants();
         privateMembers();
         names();
+        limits();
         source();
+        methodLengths();
+        objectsAreMadeAtFirst();
         Due.end();
     }
 
@@ -110,6 +113,58 @@ public final class FaceTest {
         }
         hidden.retainAll(open);
         dueNone("a hidden method with a public name", hidden);
+    }
+
+    /** Rules 5 and 11: no static state, few parameters and fields. */
+    private static void limits() {
+        List<Class<?>> classes = new ArrayList<>(List.of(HornRuleWorkbench.class.getDeclaredClasses()));
+        classes.add(HornRuleWorkbench.class);
+        for (Class<?> one : classes) {
+            int fields = 0;
+            for (Field field : one.getDeclaredFields()) {
+                if (!Modifier.isStatic(field.getModifiers())) {
+                    fields++;
+                } else {
+                    boolean constant = Modifier.isFinal(field.getModifiers()) && field.getType().isPrimitive();
+                    Due.due(field + " is a constant", constant ? 1 : 0, 1);
+                }
+            }
+            Due.due(one + " has at most twenty fields", fields <= 20 ? 1 : 0, 1);
+            for (Method method : one.getDeclaredMethods()) {
+                Due.due(method + " has at most seven parameters", method.getParameterCount() <= 7 ? 1 : 0, 1);
+            }
+        }
+    }
+
+    /** Rule 11: a method has some sixty lines at most; it ends where its own indent comes again. */
+    private static void methodLengths() throws Exception {
+        List<String> lines = Files.readAllLines(SOURCE);
+        int start = -1;
+        String end = "";
+        for (int i = 0; i < lines.size(); i++) {
+            String line = lines.get(i);
+            if (start < 0 && line.matches(" +[\\w\\[\\] ]+\\(.*\\) \\{") && !line.matches(" +(if|for|while).*")) {
+                start = i;
+                end = line.replaceAll("\\S.*", "") + "}";
+            } else if (start >= 0 && line.equals(end)) {
+                Due.due(lines.get(start).trim() + " is short", i - start < 60 ? 1 : 0, 1);
+                start = -1;
+            }
+        }
+        Due.due("every method has an end", start, -1);
+    }
+
+    /** Rule 12: only fields and constructors make objects, so a run makes no more than its workbenches hold. */
+    private static void objectsAreMadeAtFirst() throws Exception {
+        List<String> inConstructors = List.of("buffers[i] = new Buffer();", "items = new int[Math.max(room, 0)];",
+                "states[i] = new RuleList();");
+        for (String line : Files.readAllLines(SOURCE)) {
+            String code = line.replaceAll("//.*", "").trim();
+            if (code.contains("new ") && !code.startsWith("*") && !code.startsWith("/*")) {
+                boolean first = code.startsWith("private final ") || inConstructors.contains(code);
+                Due.due("no call makes an object: " + code, first ? 1 : 0, 1);
+            }
+        }
     }
 
     private static void source() throws Exception {

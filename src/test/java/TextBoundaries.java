@@ -97,6 +97,14 @@ final class TextBoundaries extends Boundaries {
             due("after \"" + text + "\"", u.clearText(), 0);
         }
         due("only the one was right", u.ruleCount(), 1);
+        for (String text : new String[] {"ab", "a>", "a>b,c", "a>b,c>d!", "!"}) {
+            HornRuleWorkbench v = with(4);
+            int first = parse(v, text) == 1 ? 1 : 0;
+            due("a right one after \"" + text + "\"", parse(v, ">c"), 1);
+            due("its premise", v.premise(first), 0);
+            due("its conclusion", v.conclusion(first), 4);
+            due("no rule more", v.ruleCount(), first + 1);
+        }
     }
 
     private static void formOfTexts() {
@@ -256,8 +264,10 @@ final class TextBoundaries extends Boundaries {
         w.undo();
         dueRow("parseRules", w::premise, 3);
         due("still disabled", w.isEnabled(0), 0);
+        due("and without effect", w.closure(3), 3);
         w.undo();
         due("setEnabled", w.isEnabled(0), 1);
+        due("it acts again", w.closure(3), 7);
         w.undo();
         due("setRule, premise", w.premise(0), 1);
         due("setRule, conclusion", w.conclusion(0), 2);
@@ -297,8 +307,10 @@ final class TextBoundaries extends Boundaries {
         dueRow("setRule, premise", w::premise, 3);
         dueRow("setRule, conclusion", w::conclusion, 4);
         due("still enabled", w.isEnabled(0), 1);
+        due("it acts", w.closure(3), 7);
         w.redo();
         due("setEnabled", w.isEnabled(0), 0);
+        due("it acts no more", w.closure(3), 3);
         w.redo();
         dueRow("parseRules", w::premise, 3, 1, 4);
         w.redo();
@@ -430,6 +442,9 @@ final class TextBoundaries extends Boundaries {
         due("redo", w.redo(), EMPTY);
         due("undoCount", w.undoCount(), 0);
         due("redoCount", w.redoCount(), 0);
+        w.setRule(0, 0, 0);
+        w.undo();
+        due("undo leads back to the snapshot", w.equalsSnapshot(), 1);
 
         says(64, "The snapshot stays.");
         w.reset(3);
