@@ -1137,20 +1137,20 @@ public final class HornRuleWorkbench {
 
     /** The states of the rules after each remembered edit, with the one before the oldest. */
     private static final class History {
-        private final RuleList[] states = new RuleList[MAX_EDITS + 1];
+        private static final int STATES = MAX_EDITS + 1;
+
+        private final IntRow sizes = new IntRow(STATES);
+        // one state after the other, each with room for all rules
+        private final IntRow codes = new IntRow(STATES * MAX_RULES);
         private int current;
         private int latest;
-
-        History() {
-            for (int i = 0; i < states.length; i++) {
-                states[i] = new RuleList();
-            }
-        }
 
         void begin(RuleList rules) {
             current = 0;
             latest = 0;
-            states[0].copyFrom(rules);
+            sizes.fill(STATES, 0);
+            codes.fill(STATES * MAX_RULES, 0);
+            keep(rules);
         }
 
         void record(RuleList rules) {
@@ -1160,20 +1160,20 @@ public final class HornRuleWorkbench {
                 current++;
             }
             latest = current;
-            states[current].copyFrom(rules);
+            keep(rules);
         }
 
         void stepBack(RuleList rules) {
             if (current > 0) {
                 current--;
-                rules.copyFrom(states[current]);
+                bringBack(rules);
             }
         }
 
         void stepForward(RuleList rules) {
             if (current < latest) {
                 current++;
-                rules.copyFrom(states[current]);
+                bringBack(rules);
             }
         }
 
@@ -1185,13 +1185,28 @@ public final class HornRuleWorkbench {
             return latest - current;
         }
 
-        /** The oldest list goes to the end, where the newest state is written over it. */
-        private void forgetOldest() {
-            RuleList oldest = states[0];
-            for (int i = 0; i + 1 < states.length; i++) {
-                states[i] = states[i + 1];
+        private void keep(RuleList rules) {
+            sizes.put(current, rules.size());
+            for (int rule = 0; rule < rules.size(); rule++) {
+                codes.put(current * MAX_RULES + rule, rules.codes.at(rule));
             }
-            states[MAX_EDITS] = oldest;
+        }
+
+        private void bringBack(RuleList rules) {
+            rules.clear();
+            for (int rule = 0; rule < sizes.at(current); rule++) {
+                rules.codes.append(codes.at(current * MAX_RULES + rule));
+            }
+        }
+
+        /** Every state moves one place down, over the one before it. */
+        private void forgetOldest() {
+            for (int state = 1; state < STATES; state++) {
+                sizes.put(state - 1, sizes.at(state));
+            }
+            for (int i = MAX_RULES; i < STATES * MAX_RULES; i++) {
+                codes.put(i - MAX_RULES, codes.at(i));
+            }
         }
     }
 

@@ -156,8 +156,7 @@ public final class FaceTest {
 
     /** Rule 12: only fields and constructors make objects, so a run makes no more than its workbenches hold. */
     private static void objectsAreMadeAtFirst() throws Exception {
-        List<String> inConstructors = List.of("buffers[i] = new Buffer();", "items = new int[Math.max(room, 0)];",
-                "states[i] = new RuleList();");
+        List<String> inConstructors = List.of("buffers[i] = new Buffer();", "items = new int[Math.max(room, 0)];");
         for (String line : Files.readAllLines(SOURCE)) {
             String code = line.replaceAll("//.*", "").trim();
             if (code.contains("new ") && !code.startsWith("*") && !code.startsWith("/*")) {

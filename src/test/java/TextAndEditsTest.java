@@ -8,6 +8,7 @@ public final class TextAndEditsTest {
         formatRules();
         undoAndRedo();
         twelveEdits();
+        editsOfAllSizes();
         snapshot();
         Due.end();
     }
@@ -211,6 +212,39 @@ public final class TextAndEditsTest {
         due("60 and the one before", w.premise(0), 2);
         w.undo();
         due("60 and the one before", w.conclusion(0), 11);
+    }
+
+    /** Fifteen edits with 1 to 10 rules; undo goes back to the state after the third. */
+    private static void editsOfAllSizes() {
+        HornRuleWorkbench w = new HornRuleWorkbench();
+        String[] signs = new String[16];
+        for (int edit = 1; edit <= 15; edit++) {
+            if (edit <= 10) {
+                w.addRule(edit, 15 - edit);
+            } else if (edit == 12) {
+                w.setEnabled(8, 0);
+            } else {
+                w.removeLastRule();
+            }
+            signs[edit] = signs(w);
+        }
+        for (int edit = 14; edit >= 3; edit--) {
+            due("60 undo", w.undo(), edit - 3);
+            due("60 the rules after edit " + edit, signs(w).equals(signs[edit]) ? 1 : 0, 1);
+        }
+        due("60 no more", w.undo(), -4);
+        for (int edit = 4; edit <= 15; edit++) {
+            due("61 redo", w.redo(), 15 - edit);
+            due("61 the rules after edit " + edit, signs(w).equals(signs[edit]) ? 1 : 0, 1);
+        }
+        due("61 no more", w.redo(), -4);
+    }
+
+    /** Tells the states apart with few calls, since an object is used for 512 at most. */
+    private static String signs(HornRuleWorkbench w) {
+        int count = w.ruleCount();
+        return count + " " + w.premise(count / 2) + " " + w.premise(count - 1) + " " + w.conclusion(count - 1)
+                + " " + w.isEnabled(8);
     }
 
     private static void snapshot() {
